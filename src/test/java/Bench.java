@@ -1,0 +1,98 @@
+import java.math.BigInteger;
+import java.util.ArrayList;
+import java.util.List;
+
+/** A desk with what the tests need around it: ordinals go in and come out as trees. */
+final class Bench {
+    /** A call of the desk, with its answer (0 for a call that has none). */
+    interface Call {
+        int answer();
+    }
+
+    final OrdinalDesk desk = new OrdinalDesk();
+    private static int wrong = 0;
+
+    static String outcome(Call call) {
+        try {
+            return Integer.toString(call.answer());
+        } catch (RuntimeException thrown) {
+            return thrown.getClass().getSimpleName();
+        }
+    }
+
+    static void due(String what, Object got, Object want) {
+        if (!got.equals(want)) {
+            wrong++;
+            if (wrong <= 50) {
+                System.out.println(what + " answered " + got + ", due is " + want);
+            }
+        }
+    }
+
+    static void finish() {
+        System.out.println(wrong == 0 ? "all answers are as due" : wrong + " answers are not as due");
+        if (wrong != 0) {
+            System.exit(1);
+        }
+    }
+
+    /** Makes the slot that ordinal; slots behind it may change, those before it do not. */
+    void load(int slot, Tree tree) {
+        desk.finite(0, slot);
+        List<Tree.Term> terms = new ArrayList<>(tree.terms);
+        terms.sort((x, y) -> slotsFor(y.exponent()) - slotsFor(x.exponent()));
+        for (int i = 0; i < terms.size(); i++) {
+            int part = i == 0 ? slot : slot + 1;
+            loadTerm(part, terms.get(i));
+            if (i > 0) {
+                desk.op(3, slot, part, slot);
+            }
+        }
+    }
+
+    void load(int slot, String text) {
+        load(slot, Tree.of(text));
+    }
+
+    private void loadTerm(int slot, Tree.Term term) {
+        int coefficient = term.coefficient().intValueExact();
+        if (term.exponent().isZero()) {
+            desk.finite(coefficient, slot);
+        } else {
+            load(slot, term.exponent());
+            desk.raise(slot, coefficient, slot);
+        }
+    }
+
+    private static int slotsFor(Tree tree) {
+        List<Integer> parts = new ArrayList<>();
+        for (Tree.Term term : tree.terms) {
+            parts.add(slotsFor(term.exponent()));
+        }
+        parts.sort((x, y) -> y - x);
+        int slots = 1;
+        for (int i = 0; i < parts.size(); i++) {
+            slots = Math.max(slots, parts.get(i) + (i == 0 ? 0 : 1));
+        }
+        return slots;
+    }
+
+    Tree read(int slot) {
+        List<Integer> writing = new ArrayList<>();
+        int cell = desk.at(slot, 0);
+        while (cell != OrdinalDesk.NONE) {
+            writing.add(cell);
+            cell = desk.at(slot, writing.size());
+        }
+        return Tree.ofWriting(writing);
+    }
+
+    /** w to the power of w to the power of .., of that size, with a last exponent of that number. */
+    static Tree tower(int size, int number) {
+        Tree tree = Tree.number(number);
+        for (int i = 1; i < size; i++) {
+            tree = Tree.power(tree, BigInteger.ONE);
+        }
+        return tree;
+    }
+}
