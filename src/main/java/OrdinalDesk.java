@@ -18,6 +18,7 @@ public final class OrdinalDesk {
     private static final int MOST_START_BASE = 1000;
     private static final int MOST_COPIES = 1000;
     private static final int MOST_FAST_NUMBER = 1000;
+    private static final int MOST_FAST_RESULT = 1000000;
     private static final int MOST_FUEL = 2000;
     private static final int WAY_BASE = 8;
     // 2 to the power of 30 is beyond the greatest number, in whatever base.
@@ -62,7 +63,7 @@ public final class OrdinalDesk {
 
     public void finite(int n, int to) throws IndexOutOfBoundsException, IllegalArgumentException {
         Row target = slot(to);
-        refuseOutside(n, 0, MOST_COEFFICIENT);
+        refuseUnless(isWithin(n, 0, MOST_COEFFICIENT));
         target.becomeNumber(n);
     }
 
@@ -70,7 +71,7 @@ public final class OrdinalDesk {
             throws IndexOutOfBoundsException, IllegalArgumentException, IllegalStateException {
         Row exponent = slot(e);
         Row target = slot(to);
-        refuseOutside(c, 1, MOST_COEFFICIENT);
+        refuseUnless(isWithin(c, 1, MOST_COEFFICIENT));
         result.becomeTerm(exponent, c);
         target.become(result);
     }
@@ -80,8 +81,9 @@ public final class OrdinalDesk {
         Row left = slot(a);
         Row right = slot(b);
         Row target = slot(to);
-        refuseOutside(kind, SUM, REMAINDER);
-        refuseOperands(kind, left, right);
+        refuseUnless(isWithin(kind, SUM, REMAINDER));
+        refuseUnless(kind != DIFFERENCE || Row.order(left, right) >= 0);
+        refuseUnless((kind != QUOTIENT && kind != REMAINDER) || !right.isZero());
         switch (kind) {
             case SUM -> Arithmetic.makeSum(left, right, result);
             case PRODUCT -> arithmetic.makeProduct(left, right, result);
@@ -99,8 +101,8 @@ public final class OrdinalDesk {
             throws IndexOutOfBoundsException, IllegalArgumentException, IllegalStateException {
         Row from = slot(a);
         Row target = slot(to);
-        refuseOutside(from.sort(), IS_LIMIT, IS_LIMIT);
-        refuseOutside(n, 0, MOST_COEFFICIENT);
+        refuseUnless(from.sort() == IS_LIMIT);
+        refuseUnless(isWithin(n, 0, MOST_COEFFICIENT));
         Descent.makeMember(from, n, result);
         return keepResult(target);
     }
@@ -109,8 +111,8 @@ public final class OrdinalDesk {
             throws IndexOutOfBoundsException, IllegalArgumentException, IllegalStateException {
         Row from = slot(a);
         Row target = slot(to);
-        refuseOutside(from.sort(), IS_SUCCESSOR, IS_LIMIT);
-        refuseOutside(base, 2, MOST_COEFFICIENT);
+        refuseUnless(!from.isZero());
+        refuseUnless(isWithin(base, 2, MOST_COEFFICIENT));
         descent.stepDown(from, base, result);
         return keepResult(target);
     }
@@ -119,10 +121,8 @@ public final class OrdinalDesk {
             throws IndexOutOfBoundsException, IllegalArgumentException, IllegalStateException {
         Row from = slot(a);
         Row target = slot(to);
-        refuseOutside(copies, 0, MOST_COPIES);
-        if (way < 0 || !hydra.findsHead(from, way)) {
-            throw new IllegalArgumentException("there is no such way");
-        }
+        refuseUnless(isWithin(copies, 0, MOST_COPIES));
+        refuseUnless(way >= 0 && hydra.findsHead(from, way));
         hydra.cutHead(from, copies, result);
         return keepResult(target);
     }
@@ -130,10 +130,9 @@ public final class OrdinalDesk {
     public int start(int n, int base, int to)
             throws IndexOutOfBoundsException, IllegalArgumentException, IllegalStateException {
         Row target = slot(to);
-        refuseOutside(n, 0, MOST_VALUE);
-        refuseOutside(base, 2, MOST_START_BASE);
-        result.clear();
-        Numbers.putInBase(n, base, result, 0);
+        refuseUnless(isWithin(n, 0, MOST_VALUE));
+        refuseUnless(isWithin(base, 2, MOST_START_BASE));
+        Numbers.makeInBase(n, base, result);
         return keepResult(target);
     }
 
@@ -156,7 +155,7 @@ public final class OrdinalDesk {
 
     public int value(int a, int n) throws IndexOutOfBoundsException, IllegalArgumentException {
         Row from = slot(a);
-        refuseOutside(n, 0, MOST_VALUE_BASE);
+        refuseUnless(isWithin(n, 0, MOST_VALUE_BASE));
         long worth = numbers.worth(from, n);
         return worth > MOST_VALUE ? NONE : (int) worth;
     }
@@ -164,8 +163,8 @@ public final class OrdinalDesk {
     public int fast(int a, int n, int fuel)
             throws IndexOutOfBoundsException, IllegalArgumentException, IllegalStateException {
         Row from = slot(a);
-        refuseOutside(n, 0, MOST_FAST_NUMBER);
-        refuseOutside(fuel, 0, MOST_FUEL);
+        refuseUnless(isWithin(n, 0, MOST_FAST_NUMBER));
+        refuseUnless(isWithin(fuel, 0, MOST_FUEL));
         return pile.workOff(from, n, fuel);
     }
 
@@ -216,18 +215,13 @@ public final class OrdinalDesk {
         return records[i];
     }
 
-    private static void refuseOutside(int n, int least, int most) {
-        if (n < least || n > most) {
-            throw new IllegalArgumentException("an argument is out of its range");
-        }
+    private static boolean isWithin(int n, int least, int most) {
+        return n >= least && n <= most;
     }
 
-    private static void refuseOperands(int kind, Row left, Row right) {
-        if (kind == DIFFERENCE && Row.order(left, right) < 0) {
-            throw new IllegalArgumentException("the first is less than the second");
-        }
-        if ((kind == QUOTIENT || kind == REMAINDER) && right.isZero()) {
-            throw new IllegalArgumentException("nothing can be divided by 0");
+    private static void refuseUnless(boolean fine) {
+        if (!fine) {
+            throw new IllegalArgumentException("an argument does not fit the call");
         }
     }
 
@@ -449,6 +443,7 @@ public final class OrdinalDesk {
         private final Row powerTerm = new Row();
         private final Row naturalLeft = new Row();
         private final Row naturalRight = new Row();
+        private final Row naturalJoined = new Row();
         private final Row naturalTerm = new Row();
         private final Row thisTotal = new Row();
         private final Row nextTotal = new Row();
@@ -601,8 +596,8 @@ public final class OrdinalDesk {
             for (int term = 0; term < MOST_TERMS && start < b.length; term++) {
                 int end = b.termEnd(start);
                 naturalRight.becomeExponent(b, start, end);
-                makeNaturalSum(naturalLeft, naturalRight, thisTotal);
-                naturalTerm.becomeTerm(thisTotal, (long) coefficient * b.coefficient(end));
+                makeNaturalSum(naturalLeft, naturalRight, naturalJoined);
+                naturalTerm.becomeTerm(naturalJoined, (long) coefficient * b.coefficient(end));
                 makeNaturalSum(total, naturalTerm, nextTotal);
                 total.become(nextTotal);
                 start = end;
@@ -744,8 +739,6 @@ public final class OrdinalDesk {
         private int headLevel = 0;
         private final Row thinned = new Row();
         private final Row neck = new Row();
-        private final Row thisPart = new Row();
-        private final Row nextPart = new Row();
 
         boolean findsHead(Row hydra, int way) {
             int from = 0;
@@ -772,18 +765,12 @@ public final class OrdinalDesk {
 
         /** Cuts the head that was found last. */
         void cutHead(Row hydra, int copies, Row out) {
-            Row part = thisPart;
-            Row next = nextPart;
-            makeThinned(hydra, headLevel, part);
+            makeThinned(hydra, headLevel, out);
             for (int level = headLevel - 1; level >= 0; level--) {
-                neck.becomeTerm(part, level == headLevel - 1 ? copies + 1 : 1);
+                neck.becomeTerm(out, level == headLevel - 1 ? copies + 1 : 1);
                 makeThinned(hydra, level, thinned);
-                Arithmetic.makeNaturalSum(thinned, neck, next);
-                Row made = next;
-                next = part;
-                part = made;
+                Arithmetic.makeNaturalSum(thinned, neck, out);
             }
-            out.become(part);
         }
 
         private void makeThinned(Row hydra, int level, Row out) {
@@ -830,18 +817,19 @@ public final class OrdinalDesk {
             if (times[height - 1] <= 0) {
                 height--;
             }
-            switch (top.sort()) {
-                case IS_ZERO:
-                    number++;
-                    return number <= MOST_COEFFICIENT;
-                case IS_SUCCESSOR:
-                    made.clear();
-                    Descent.putBefore(top, 0, top.length, made);
-                    return pushes(made, number);
-                default:
-                    Descent.makeMember(top, number, made);
-                    return pushes(made, 1);
+            int sort = top.sort();
+            if (sort == IS_ZERO) {
+                number++;
+                return number <= MOST_FAST_RESULT;
             }
+            if (sort == IS_LIMIT) {
+                // Made before the pile is looked at: having no room for it comes first.
+                Descent.makeMember(top, number, made);
+                return pushes(made, 1);
+            }
+            made.clear();
+            Descent.putBefore(top, 0, top.length, made);
+            return pushes(made, number);
         }
 
         private boolean pushes(Row row, int count) {
@@ -863,8 +851,12 @@ public final class OrdinalDesk {
         // The sums of the ordinal itself and of the exponents that stand open.
         private final long[] sums = new long[MOST_TERMS + 1];
 
-        /** Puts the ordinal whose value at the base is n; the depth is that of the exponent. */
-        static void putInBase(int n, int base, Row out, int depth) {
+        static void makeInBase(int n, int base, Row out) {
+            out.clear();
+            putInBase(n, base, out, 0);
+        }
+
+        private static void putInBase(int n, int base, Row out, int depth) {
             if (depth > MOST_TERMS) {
                 throw new IllegalStateException("there is no room for so deep an exponent");
             }

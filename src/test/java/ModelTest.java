@@ -1,29 +1,70 @@
+import java.lang.reflect.InvocationTargetException;
+import java.lang.reflect.Method;
 import java.math.BigInteger;
+import java.util.Arrays;
+import java.util.HashMap;
+import java.util.Map;
 import java.util.Random;
 
 /** Holds the program against the model: single calls on random ordinals, and random runs of calls. */
 public final class ModelTest {
-    private static final int RECORD = 13;
-    private static final int WIPE = 17;
+    private static final String[] OPERATIONS = {"op", "op", "op", "op", "op", "op", "op", "op",
+        "member", "step", "chop", "fast", "value", "compare"};
+    /** Those that make ordinals come more often than those that only look at them. */
+    private static final String[] CALLS = {"finite", "finite", "raise", "raise", "raise", "raise",
+        "op", "op", "op", "op", "op", "op", "op", "op", "op", "op", "op", "op", "member", "step",
+        "chop", "chop", "chop", "start", "fast", "value", "compare", "kind", "size", "at", "record",
+        "record", "rise", "replace", "recall"};
     private static final int[] EDGES = {-1, 0, 1, 2, 3, 7, 8, 12, 13, 19, 20, 21, 999, 1000, 1001,
         1999, 2000, 2001, 999999, 1000000, 1000001, 1000000000, 1000000001,
         Integer.MAX_VALUE, Integer.MIN_VALUE};
+    private static final int CALLS_OF_A_RUN = 260;
+    private static final int CELLS_READ = 30;
+
+    private static final Map<String, Method> OF_DESK = methods(OrdinalDesk.class);
+    private static final Map<String, Method> OF_MODEL = methods(DeskModel.class);
+
+    private final Random random = new Random(20261115);
 
     public static void main(String[] args) {
-        Random random = new Random(20261115);
-        for (int round = 0; round < 12000; round++) {
-            singleCall(random, round % 14);
+        ModelTest test = new ModelTest();
+        for (int round = 0; round < 14000; round++) {
+            test.singleCall(round % OPERATIONS.length);
         }
         for (int round = 0; round < 600; round++) {
-            runOfCalls(random);
+            test.runOfCalls();
         }
         Bench.finish();
     }
 
-    /** One call on two slots with ordinals of up to the greatest size. */
-    private static void singleCall(Random random, int which) {
-        Tree b = anyTree(random);
-        Tree a = firstFor(random, which, b);
+    private static Map<String, Method> methods(Class<?> type) {
+        Map<String, Method> methods = new HashMap<>();
+        for (Method method : type.getDeclaredMethods()) {
+            methods.put(method.getName(), method);
+        }
+        return methods;
+    }
+
+    private static void call(OrdinalDesk desk, DeskModel model, String where, String name, int... values) {
+        Object[] arguments = Arrays.stream(values).boxed().toArray();
+        Bench.due(name + Arrays.toString(values) + " at " + where,
+                outcome(OF_DESK.get(name), desk, arguments), outcome(OF_MODEL.get(name), model, arguments));
+    }
+
+    private static String outcome(Method method, Object target, Object[] arguments) {
+        try {
+            return String.valueOf(method.invoke(target, arguments));
+        } catch (InvocationTargetException thrown) {
+            return thrown.getCause().getClass().getSimpleName();
+        } catch (IllegalAccessException denied) {
+            throw new AssertionError(denied);
+        }
+    }
+
+    /** One call on two slots with ordinals of up to the greatest size; the first eight are operations. */
+    private void singleCall(int which) {
+        Tree b = anyTree();
+        Tree a = firstFor(which, b);
         Bench bench = new Bench();
         DeskModel model = new DeskModel();
         bench.load(0, a);
@@ -31,47 +72,100 @@ public final class ModelTest {
         bench.load(2, Tree.ZERO);
         model.slots[0] = a;
         model.slots[1] = b;
-        int to = random.nextInt(3);
-        int[] values = arguments(random, which, a, to);
-        call(bench.desk, model, which < 8 ? 2 : which - 5, values, a + " and " + b);
+        String where = a + " and " + b;
+        call(bench.desk, model, where, OPERATIONS[which], operands(which, a));
         for (int slot = 0; slot < 3; slot++) {
-            due("slot " + slot + " behind " + which + " of " + a + " and " + b,
+            Bench.due("slot " + slot + " behind " + OPERATIONS[which] + " at " + where,
                     bench.read(slot).toString(), model.slots[slot].toString());
         }
     }
 
-    private static Tree anyTree(Random random) {
-        return tree(random, 1 + random.nextInt(random.nextBoolean() ? 20 : 8));
+    private int[] operands(int which, Tree a) {
+        int to = random.nextInt(3);
+        switch (OPERATIONS[which]) {
+            case "op": return new int[] {which, 0, 1, to};
+            case "member": return new int[] {0, smallOrEdge(), to};
+            case "step": return new int[] {0, 2 + random.nextInt(4), to};
+            case "chop": return new int[] {0, random.nextInt(5) == 0 ? anyWay() : wayInto(a), random.nextInt(4), to};
+            case "fast": return new int[] {0, random.nextInt(4), 1 + random.nextInt(2000)};
+            case "value": return new int[] {0, random.nextInt(12)};
+            default: return new int[] {0, 1};
+        }
     }
 
     /** An ordinal that goes with b: so that limits have members, and quotients are not all plain. */
-    private static Tree firstFor(Random random, int which, Tree b) {
-        Tree a = anyTree(random);
+    private Tree firstFor(int which, Tree b) {
+        Tree a = anyTree();
         boolean related = random.nextInt(4) > 0;
-        if (which == 8 && related && a.isSuccessor()) {
+        if (OPERATIONS[which].equals("member") && related && a.isSuccessor()) {
             return a.withoutLast();
         }
         if (which >= 5 && which <= 7 && related) {
-            Tree made = which == 5 ? Tree.sum(b, a) : Tree.sum(Tree.product(b, tree(random, 4)), a);
+            Tree made = which == 5 ? Tree.sum(b, a) : Tree.sum(Tree.product(b, tree(4)), a);
             return DeskModel.hasRoom(made) ? made : a;
         }
         return random.nextInt(10) == 0 ? b : a;
     }
 
-    private static int[] arguments(Random random, int which, Tree a, int to) {
-        switch (which) {
-            case 8: return new int[] {0, smallOrEdge(random), to, 0};
-            case 9: return new int[] {0, 2 + random.nextInt(4), to, 0};
-            case 10: return new int[] {0, random.nextInt(5) == 0 ? way(random) : wayInto(random, a),
-                random.nextInt(4), to};
-            case 11: return new int[] {0, random.nextInt(4), 1 + random.nextInt(2000), 0};
-            case 12: return new int[] {0, random.nextInt(12), 0, 0};
-            case 13: return new int[] {0, 1, 0, 0};
-            default: return new int[] {which, 0, 1, to};
+    /** Calls of all sorts on one object, some of them with wrong arguments; then the slots are read. */
+    private void runOfCalls() {
+        OrdinalDesk desk = new OrdinalDesk();
+        DeskModel model = new DeskModel();
+        for (int slot = 0; slot < 8; slot++) {
+            call(desk, model, "the beginning", "finite", random.nextInt(4), slot);
+            call(desk, model, "the beginning", "raise", random.nextInt(slot + 1), 1 + random.nextInt(3), slot);
+        }
+        for (int i = 16; i < CALLS_OF_A_RUN; i++) {
+            String name = random.nextInt(150) == 0 ? "wipe" : CALLS[random.nextInt(CALLS.length)];
+            call(desk, model, "call " + i, name, arguments(name));
+        }
+        for (int slot = 0; slot < 8; slot++) {
+            for (int i = 0; i <= Math.min(model.slots[slot].writing().size(), CELLS_READ); i++) {
+                call(desk, model, "the end", "at", slot, i);
+            }
         }
     }
 
-    private static int wayInto(Random random, Tree tree) {
+    private int[] arguments(String name) {
+        switch (name) {
+            case "finite": return new int[] {smallOrEdge(), slot()};
+            case "op": return new int[] {random.nextInt(40) == 0 ? smallOrEdge() : random.nextInt(8),
+                slot(), slot(), slot()};
+            case "chop": return new int[] {slot(), anyWay(), smallOrEdge(), slot()};
+            case "start": return new int[] {random.nextInt(1 << (1 + random.nextInt(30))), smallOrEdge(), slot()};
+            case "fast": return new int[] {slot(), smallOrEdge(), random.nextInt(2010)};
+            case "value": return new int[] {slot(), smallOrEdge()};
+            case "at": return new int[] {slot(), random.nextInt(64) - 2};
+            case "replace": case "recall": return new int[] {random.nextInt(15) - 1, slot()};
+            case "compare": return new int[] {slot(), slot()};
+            case "kind": case "size": case "record": return new int[] {slot()};
+            case "rise": case "wipe": return new int[] {};
+            default: return new int[] {slot(), smallOrEdge(), slot()};
+        }
+    }
+
+    private int slot() {
+        return random.nextInt(60) == 0 ? edge() : random.nextInt(8);
+    }
+
+    private int smallOrEdge() {
+        return random.nextInt(3) == 0 ? edge() : random.nextInt(6);
+    }
+
+    private int edge() {
+        return EDGES[random.nextInt(EDGES.length)];
+    }
+
+    /** Mostly digits that name one of the first terms. */
+    private int anyWay() {
+        int way = 0;
+        for (int i = 0; i < 5; i++) {
+            way = way * 8 + (random.nextInt(30) == 0 ? random.nextInt(8) : Math.max(0, random.nextInt(6) - 4));
+        }
+        return random.nextInt(30) == 0 ? edge() : way;
+    }
+
+    private int wayInto(Tree tree) {
         int way = 0;
         int place = 1;
         Tree part = tree;
@@ -84,133 +178,19 @@ public final class ModelTest {
         return way;
     }
 
-    /** Calls by number: those of singleCall are op 2, member 3, step 4, chop 5, fast 6, value 7, compare 8. */
-    private static void call(OrdinalDesk desk, DeskModel model, int which, int[] v, String where) {
-        String what = "call " + which + " (" + v[0] + ", " + v[1] + ", " + v[2] + ", " + v[3] + ") at " + where;
-        due(what, Bench.outcome(() -> onDesk(desk, which, v)), Bench.outcome(() -> onModel(model, which, v)));
-    }
-
-    private static int onDesk(OrdinalDesk desk, int which, int[] v) {
-        switch (which) {
-            case 0: desk.finite(v[0], v[1]); return 0;
-            case 1: desk.raise(v[0], v[1], v[2]); return 0;
-            case 2: return desk.op(v[0], v[1], v[2], v[3]);
-            case 3: return desk.member(v[0], v[1], v[2]);
-            case 4: return desk.step(v[0], v[1], v[2]);
-            case 5: return desk.chop(v[0], v[1], v[2], v[3]);
-            case 6: return desk.fast(v[0], v[1], v[2]);
-            case 7: return desk.value(v[0], v[1]);
-            case 8: return desk.compare(v[0], v[1]);
-            case 9: return desk.start(v[0], v[1], v[2]);
-            case 10: return desk.kind(v[0]);
-            case 11: return desk.size(v[0]);
-            case 12: return desk.at(v[0], v[1]);
-            case 13: return desk.record(v[0]);
-            case 14: return desk.rise();
-            case 15: desk.replace(v[0], v[1]); return 0;
-            case 16: desk.recall(v[0], v[1]); return 0;
-            default: return desk.wipe();
-        }
-    }
-
-    private static int onModel(DeskModel desk, int which, int[] v) {
-        switch (which) {
-            case 0: desk.finite(v[0], v[1]); return 0;
-            case 1: desk.raise(v[0], v[1], v[2]); return 0;
-            case 2: return desk.op(v[0], v[1], v[2], v[3]);
-            case 3: return desk.member(v[0], v[1], v[2]);
-            case 4: return desk.step(v[0], v[1], v[2]);
-            case 5: return desk.chop(v[0], v[1], v[2], v[3]);
-            case 6: return desk.fast(v[0], v[1], v[2]);
-            case 7: return desk.value(v[0], v[1]);
-            case 8: return desk.compare(v[0], v[1]);
-            case 9: return desk.start(v[0], v[1], v[2]);
-            case 10: return desk.kind(v[0]);
-            case 11: return desk.size(v[0]);
-            case 12: return desk.at(v[0], v[1]);
-            case 13: return desk.record(v[0]);
-            case 14: return desk.rise();
-            case 15: desk.replace(v[0], v[1]); return 0;
-            case 16: desk.recall(v[0], v[1]); return 0;
-            default: return desk.wipe();
-        }
-    }
-
-    /** Calls of all sorts on one object, some of them with wrong arguments; then all is read. */
-    private static void runOfCalls(Random random) {
-        OrdinalDesk desk = new OrdinalDesk();
-        DeskModel model = new DeskModel();
-        int calls = 0;
-        for (int slot = 0; slot < 8; slot++, calls += 2) {
-            call(desk, model, 0, new int[] {random.nextInt(4), slot, 0, 0}, "the beginning");
-            call(desk, model, 1, new int[] {random.nextInt(slot + 1), 1 + random.nextInt(3), slot, 0}, "the beginning");
-        }
-        for (; calls < 260; calls++) {
-            int which = sort(random);
-            if (which == WIPE && random.nextInt(12) > 0) {
-                which = RECORD;
-            }
-            call(desk, model, which, runArguments(random, which), "call " + calls);
-        }
-        for (int slot = 0; slot < 8; slot++) {
-            for (int i = 0; i <= Math.min(model.slots[slot].writing().size(), 30); i++) {
-                call(desk, model, 12, new int[] {slot, i, 0, 0}, "the end");
-            }
-        }
-    }
-
-    /** The makers of ordinals come more often than the calls that only look at them. */
-    private static int sort(Random random) {
-        int sort = random.nextInt(36);
-        if (sort < 18) {
-            return sort;
-        }
-        return sort < 30 ? 2 : sort < 33 ? 1 : 5;
-    }
-
-    private static int[] runArguments(Random random, int which) {
-        switch (which) {
-            case 0: return new int[] {smallOrEdge(random), slot(random), 0, 0};
-            case 1: return new int[] {slot(random), smallOrEdge(random), slot(random), 0};
-            case 2: return new int[] {random.nextInt(40) == 0 ? smallOrEdge(random) : random.nextInt(8),
-                slot(random), slot(random), slot(random)};
-            case 5: return new int[] {slot(random), way(random), smallOrEdge(random), slot(random)};
-            case 9: return new int[] {random.nextInt(1 << (1 + random.nextInt(30))), smallOrEdge(random),
-                slot(random), 0};
-            case 6: return new int[] {slot(random), smallOrEdge(random), random.nextInt(2010), 0};
-            case 12: return new int[] {slot(random), random.nextInt(64) - 2, 0, 0};
-            case 15: case 16: return new int[] {random.nextInt(15) - 1, slot(random), 0, 0};
-            default: return new int[] {slot(random), smallOrEdge(random), slot(random), 0};
-        }
-    }
-
-    private static int slot(Random random) {
-        return random.nextInt(60) == 0 ? EDGES[random.nextInt(EDGES.length)] : random.nextInt(8);
-    }
-
-    private static int smallOrEdge(Random random) {
-        return random.nextInt(3) == 0 ? EDGES[random.nextInt(EDGES.length)] : random.nextInt(6);
-    }
-
-    /** Mostly digits that name one of the first terms. */
-    private static int way(Random random) {
-        int way = 0;
-        for (int i = 0; i < 5; i++) {
-            int digit = random.nextInt(30) == 0 ? random.nextInt(8) : Math.max(0, random.nextInt(4) - 1);
-            way = way * 8 + digit;
-        }
-        return random.nextInt(30) == 0 ? EDGES[random.nextInt(EDGES.length)] : way;
+    private Tree anyTree() {
+        return tree(1 + random.nextInt(random.nextBoolean() ? 20 : 8));
     }
 
     /** A random ordinal of about that size, and not beyond it. */
-    private static Tree tree(Random random, int size) {
+    private Tree tree(int size) {
         Tree tree = Tree.ZERO;
         int left = size;
         while (left > 0 && random.nextInt(12) > 0) {
-            Tree exponent = tree(random, random.nextInt(Math.max(1, left)));
-            Tree term = Tree.power(exponent, BigInteger.valueOf(coefficient(random)));
+            Tree exponent = tree(random.nextInt(left));
+            Tree term = Tree.power(exponent, BigInteger.valueOf(coefficient()));
             Tree more = Tree.naturalSum(tree, term);
-            if (more.greatestCoefficient().intValueExact() <= 1000000) {
+            if (DeskModel.hasRoom(more)) {
                 tree = more;
             }
             left -= term.size();
@@ -218,12 +198,8 @@ public final class ModelTest {
         return tree;
     }
 
-    private static int coefficient(Random random) {
+    private int coefficient() {
         int sort = random.nextInt(40);
         return sort == 0 ? 1000000 : sort == 1 ? 1000 : sort == 2 ? 500000 : 1 + random.nextInt(3);
-    }
-
-    private static void due(String what, Object got, Object want) {
-        Bench.due(what, got, want);
     }
 }
