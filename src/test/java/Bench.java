@@ -9,7 +9,11 @@ final class Bench {
         int answer();
     }
 
+    private static final int MOST_NUMBERS = 3 * 20;
+
     final OrdinalDesk desk = new OrdinalDesk();
+    /** How many calls went into loading and reading. */
+    int calls = 0;
     private static int wrong = 0;
 
     static String outcome(Call call) {
@@ -39,6 +43,7 @@ final class Bench {
     /** Makes the slot that ordinal; slots behind it may change, those before it do not. */
     void load(int slot, Tree tree) {
         desk.finite(0, slot);
+        calls++;
         List<Tree.Term> terms = new ArrayList<>(tree.terms);
         terms.sort((x, y) -> slotsFor(y.exponent()) - slotsFor(x.exponent()));
         for (int i = 0; i < terms.size(); i++) {
@@ -46,6 +51,7 @@ final class Bench {
             loadTerm(part, terms.get(i));
             if (i > 0) {
                 desk.op(3, slot, part, slot);
+                calls++;
             }
         }
     }
@@ -56,6 +62,7 @@ final class Bench {
 
     private void loadTerm(int slot, Tree.Term term) {
         int coefficient = term.coefficient().intValueExact();
+        calls++;
         if (term.exponent().isZero()) {
             desk.finite(coefficient, slot);
         } else {
@@ -77,13 +84,15 @@ final class Bench {
         return slots;
     }
 
+    /** At most one number more than a writing of the greatest size has, so that it ends in any case. */
     Tree read(int slot) {
         List<Integer> writing = new ArrayList<>();
         int cell = desk.at(slot, 0);
-        while (cell != OrdinalDesk.NONE) {
+        while (cell != OrdinalDesk.NONE && writing.size() <= MOST_NUMBERS) {
             writing.add(cell);
             cell = desk.at(slot, writing.size());
         }
+        calls += writing.size() + 1;
         return Tree.ofWriting(writing);
     }
 

@@ -1,9 +1,4 @@
-import java.lang.reflect.InvocationTargetException;
-import java.lang.reflect.Method;
 import java.math.BigInteger;
-import java.util.Arrays;
-import java.util.HashMap;
-import java.util.Map;
 import java.util.Random;
 
 /** Holds the program against the model: single calls on random ordinals, and random runs of calls. */
@@ -21,9 +16,6 @@ public final class ModelTest {
     private static final int CALLS_OF_A_RUN = 260;
     private static final int CELLS_READ = 30;
 
-    private static final Map<String, Method> OF_DESK = methods(OrdinalDesk.class);
-    private static final Map<String, Method> OF_MODEL = methods(DeskModel.class);
-
     private final Random random = new Random(20261115);
 
     public static void main(String[] args) {
@@ -37,28 +29,9 @@ public final class ModelTest {
         Bench.finish();
     }
 
-    private static Map<String, Method> methods(Class<?> type) {
-        Map<String, Method> methods = new HashMap<>();
-        for (Method method : type.getDeclaredMethods()) {
-            methods.put(method.getName(), method);
-        }
-        return methods;
-    }
-
     private static void call(OrdinalDesk desk, DeskModel model, String where, String name, int... values) {
-        Object[] arguments = Arrays.stream(values).boxed().toArray();
-        Bench.due(name + Arrays.toString(values) + " at " + where,
-                outcome(OF_DESK.get(name), desk, arguments), outcome(OF_MODEL.get(name), model, arguments));
-    }
-
-    private static String outcome(Method method, Object target, Object[] arguments) {
-        try {
-            return String.valueOf(method.invoke(target, arguments));
-        } catch (InvocationTargetException thrown) {
-            return thrown.getCause().getClass().getSimpleName();
-        } catch (IllegalAccessException denied) {
-            throw new AssertionError(denied);
-        }
+        Bench.due(Calls.text(name, values) + " at " + where,
+                Calls.outcome(desk, name, values), Calls.outcome(model, name, values));
     }
 
     /** One call on two slots with ordinals of up to the greatest size; the first eight are operations. */
