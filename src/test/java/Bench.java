@@ -4,25 +4,12 @@ import java.util.List;
 
 /** A desk with what the tests need around it: ordinals go in and come out as trees. */
 final class Bench {
-    /** A call of the desk, with its answer (0 for a call that has none). */
-    interface Call {
-        int answer();
-    }
-
     private static final int MOST_NUMBERS = 3 * 20;
 
     final OrdinalDesk desk = new OrdinalDesk();
     /** How many calls went into loading and reading. */
     int calls = 0;
     private static int wrong = 0;
-
-    static String outcome(Call call) {
-        try {
-            return Integer.toString(call.answer());
-        } catch (RuntimeException thrown) {
-            return thrown.getClass().getSimpleName();
-        }
-    }
 
     static void due(String what, Object got, Object want) {
         if (!got.equals(want)) {

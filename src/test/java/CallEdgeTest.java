@@ -3,6 +3,8 @@ public final class CallEdgeTest {
     private static final String ARGUMENT = Stand.ARGUMENT;
     /** Of size 19; its members but for member 0 are of size 21. */
     private static final String LARGE = "w^(w^7+w^6+w^5+w^4+w^3+w^2+w+1)+w^w*2";
+    private static final String TEN_LARGE_TERMS = "w^13*1000000+w^12*1000000+w^11*1000000+w^10*1000000"
+            + "+w^9*1000000+w^8*1000000+w^7*1000000+w^6*1000000+w^5*1000000+w^4*1000000";
 
     public static void main(String[] args) {
         newObject();
@@ -47,15 +49,15 @@ public final class CallEdgeTest {
         Stand.sentence("Promise 1: All slots are 0, nothing is recorded");
         for (int slot = 0; slot < Stand.SLOTS; slot++) {
             OrdinalDesk desk = new OrdinalDesk();
-            Bench.due("size of new slot " + slot, desk.size(slot), 0);
-            Bench.due("kind of new slot " + slot, desk.kind(slot), 0);
-            Bench.due("at of new slot " + slot, desk.at(slot, 0), -1);
-            Bench.due("recall of a new object", Calls.outcome(desk, "recall", slot, 0), Stand.SLOT);
-            Bench.due("replace of a new object", Calls.outcome(desk, "replace", slot, 0), Stand.SLOT);
+            Stand.due("size of new slot " + slot, desk.size(slot), 0);
+            Stand.due("kind of new slot " + slot, desk.kind(slot), 0);
+            Stand.due("at of new slot " + slot, desk.at(slot, 0), -1);
+            Stand.due("recall of a new object", Calls.outcome(desk, "recall", slot, 0), Stand.SLOT);
+            Stand.due("replace of a new object", Calls.outcome(desk, "replace", slot, 0), Stand.SLOT);
         }
-        Bench.due("rise of a new object", new OrdinalDesk().rise(), -1);
-        Bench.due("wipe of a new object", new OrdinalDesk().wipe(), 0);
-        Bench.due("record of a new object", new OrdinalDesk().record(0), 1);
+        Stand.due("rise of a new object", new OrdinalDesk().rise(), -1);
+        Stand.due("wipe of a new object", new OrdinalDesk().wipe(), 0);
+        Stand.due("record of a new object", new OrdinalDesk().record(0), 1);
     }
 
     private static void finite() {
@@ -258,7 +260,7 @@ public final class CallEdgeTest {
         Bench bench = new Bench();
         bench.load(0, "w^2+w+5");
         bench.desk.finite(4, 0);
-        Bench.due("at of a shortened one", bench.desk.at(0, 3), -1);
+        Stand.due("at of a shortened one", bench.desk.at(0, 3), -1);
     }
 
     private static void value() {
@@ -286,7 +288,9 @@ public final class CallEdgeTest {
         Stand.with("w*1000000+1").answers(-1, "value", 0, 1000);
         Stand.with("w^29").answers(536870912, "value", 0, 2);
         Stand.with("w^30").answers(-1, "value", 0, 2);
-        // Sums that come back to a small number if they wrap around.
+        // Powers and sums that come back to a small number if they wrap around.
+        Stand.with(TEN_LARGE_TERMS).answers(-1, "value", 0, 1000);
+        Stand.with("w^(" + TEN_LARGE_TERMS.replace("+w^4*1000000", "") + ")").answers(-1, "value", 0, 1000);
         Stand.with("w^32").answers(-1, "value", 0, 2);
         Stand.with("w^64+5").answers(-1, "value", 0, 2);
         Stand.with("w^1000000*1000000").answers(-1, "value", 0, 1000);

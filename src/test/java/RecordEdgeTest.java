@@ -117,15 +117,15 @@ public final class RecordEdgeTest {
         for (int i = 0; i < MOST; i++) {
             desk.record(0);
         }
-        Bench.due("wipe of twelve", desk.wipe(), MOST);
-        Bench.due("wipe behind wipe", desk.wipe(), 0);
-        Bench.due("rise behind wipe", desk.rise(), -1);
-        Bench.due("recall behind wipe", Calls.outcome(desk, "recall", 0, 0), Stand.SLOT);
-        Bench.due("replace behind wipe", Calls.outcome(desk, "replace", 0, 0), Stand.SLOT);
+        Stand.due("wipe of twelve", desk.wipe(), MOST);
+        Stand.due("wipe behind wipe", desk.wipe(), 0);
+        Stand.due("rise behind wipe", desk.rise(), -1);
+        Stand.due("recall behind wipe", Calls.outcome(desk, "recall", 0, 0), Stand.SLOT);
+        Stand.due("replace behind wipe", Calls.outcome(desk, "replace", 0, 0), Stand.SLOT);
         for (int i = 0; i < MOST; i++) {
-            Bench.due("record behind wipe", desk.record(0), i + 1);
+            Stand.due("record behind wipe", desk.record(0), i + 1);
         }
-        Bench.due("record behind twelve more", Calls.outcome(desk, "record", 0), Stand.ROOM);
+        Stand.due("record behind twelve more", Calls.outcome(desk, "record", 0), Stand.ROOM);
     }
 
     /** A record and a slot that were the same once go their own ways. */
@@ -135,14 +135,14 @@ public final class RecordEdgeTest {
         desk.record(0);
         desk.finite(6, 0);
         desk.recall(0, 1);
-        Bench.due("a record when its slot has changed", desk.at(1, 2), 5);
+        Stand.due("a record when its slot has changed", desk.at(1, 2), 5);
         desk.replace(0, 0);
-        Bench.due("a slot when its record has changed", desk.at(1, 2), 5);
+        Stand.due("a slot when its record has changed", desk.at(1, 2), 5);
         desk.finite(7, 0);
         desk.recall(0, 2);
-        Bench.due("a replaced record when its slot has changed", desk.at(2, 2), 6);
+        Stand.due("a replaced record when its slot has changed", desk.at(2, 2), 6);
         desk.finite(8, 2);
         desk.recall(0, 3);
-        Bench.due("a record when the slot it went to has changed", desk.at(3, 2), 6);
+        Stand.due("a record when the slot it went to has changed", desk.at(3, 2), 6);
     }
 }

@@ -2,12 +2,13 @@ import java.lang.management.ManagementFactory;
 
 /** All calls of a run live in one room: the dearest ones must not make objects over and over. */
 public final class RoomTest {
-    /** Of 7.3 million fields and elements, at four bytes each. */
-    private static final long MOST_BYTES = 7300000L * 4;
+    /** Of 600,000 objects at sixteen bytes each, which is less than 7.3 million elements take. */
+    private static final long MOST_BYTES = 600000L * 16;
+    private static final int MOST_CALLS = 512;
 
     public static void main(String[] args) {
         if (ManagementFactory.getThreadMXBean() instanceof com.sun.management.ThreadMXBean threads) {
-            for (int round = 0; round < 8; round++) {
+            for (int round = 0; round < 9; round++) {
                 long before = threads.getThreadAllocatedBytes(Thread.currentThread().getId());
                 run(round);
                 long made = threads.getThreadAllocatedBytes(Thread.currentThread().getId()) - before;
@@ -23,8 +24,13 @@ public final class RoomTest {
         bench.load(1, "w^3+w^2*2+w+3");
         bench.load(2, "w^2*3+w+1");
         bench.load(3, "2000");
-        for (int call = 0; call < 400; call++) {
-            Bench.outcome(() -> dearCall(bench.desk, round));
+        for (int call = bench.calls; call < MOST_CALLS; call++) {
+            try {
+                dearCall(bench.desk, round);
+            } catch (IllegalStateException noRoom) {
+                // What is made before there is no room for more counts as well.
+                continue;
+            }
         }
     }
 
@@ -35,8 +41,9 @@ public final class RoomTest {
             case 2: return desk.fast(1, 3, 2000);
             case 3: return desk.op(4, 1, 2, 4);
             case 4: return desk.op(2, 2, 3, 4);
-            case 5: return desk.step(0, 3, 4);
-            case 6: return desk.chop(0, 0, 3, 4);
+            case 5: return desk.op(6, 0, 2, 4);
+            case 6: return desk.step(0, 3, 4);
+            case 7: return desk.chop(0, 0, 3, 4);
             default: return desk.start(1000000000, 3, 4);
         }
     }

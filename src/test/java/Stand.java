@@ -149,6 +149,10 @@ final class Stand {
     }
 
     private static void due(String call, String what, Object got, Object want) {
-        Bench.due("\"" + sentence + "\" " + call + ": " + what, got, want);
+        due(call + ": " + what, got, want);
+    }
+
+    static void due(String what, Object got, Object want) {
+        Bench.due("\"" + sentence + "\" " + what, got, want);
     }
 }
