@@ -7,6 +7,8 @@
  */
 public final class RoomEdgeTest {
     private static final String ROOM = Stand.ROOM;
+    private static final String ON_THE_WAY =
+            "when there is none for one on the way: a product in a^m, a member in a step, or in FAST";
 
     /** First terms of these sizes, which leave a little room behind them. */
     private static final String SIZE_14 = "w^(w^7+w^6+w^5+w^4+w^3+w^2+1)";
@@ -194,7 +196,7 @@ public final class RoomEdgeTest {
     }
 
     private static void onTheWayOfPowers() {
-        Stand.sentence("and when there is none for one on the way: a product in a^m");
+        Stand.sentence(ON_THE_WAY);
         op(2, "w+1", "11", ROOM);
         op(2, "w+1", "20", ROOM);
         op(2, "w+1", "w+3", "w^(w+3)+w^(w+2)+w^(w+1)+w^w");
@@ -208,7 +210,7 @@ public final class RoomEdgeTest {
     }
 
     private static void onTheWayOfSteps() {
-        Stand.sentence("and when there is none for one on the way: a member in a step");
+        Stand.sentence(ON_THE_WAY);
         step(SIZE_14 + "+w^w*2", 2, SIZE_14 + "+w^w+w+1");
         step(SIZE_15 + "+w^w*2", 2, ROOM);
         step(SIZE_16 + "+w^w*2", 2, ROOM);
@@ -222,7 +224,7 @@ public final class RoomEdgeTest {
     }
 
     private static void onTheWayOfFast() {
-        Stand.sentence("and when there is none for one on the way: or in FAST");
+        Stand.sentence(ON_THE_WAY);
         // Its member 2 has the size 20, the member 2 of that too, and the next one 21.
         Stand.with(SIZE_15 + "+w^w*2").answers(-1, "fast", 0, 2, 2);
         Stand.with(SIZE_15 + "+w^w*2").refuses(ROOM, "fast", 0, 2, 3);

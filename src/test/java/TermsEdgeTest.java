@@ -91,7 +91,7 @@ public final class TermsEdgeTest {
         Stand.with("w").answers(2, "size", 0);
         Stand.with("w^(w^w+1)*9+w+2").answers(8, "size", 0);
         Stand.with(Bench.tower(20, 3).toString()).answers(20, "size", 0);
-        Stand.sentence("WRITING: of each term, one behind the other: 1, the writing of its exponent, 0, its coefficient");
+        Stand.sentence("of each term, one behind the other: 1, the writing of its exponent, 0, its coefficient");
         int[] writing = {1, 1, 1, 0, 4, 0, 2, 1, 0, 6, 0, 3, 1, 0, 5};
         for (int i = 0; i < writing.length; i++) {
             Stand.with("w^(w^4*2+6)*3+5").answers(writing[i], "at", 0, i);
@@ -178,7 +178,7 @@ public final class TermsEdgeTest {
         op(2, "0", "1", "0");
         op(2, "0", "1000000", "0");
         op(2, "0", "w^w", "0");
-        Stand.sentence("let m be the coefficient of b's term with the exponent 0 (0 without), and B be b without it");
+        Stand.sentence("m be the coefficient of b's term with the exponent 0 (0 without), and B be b without it");
         op(2, "3", "w", "w");
         op(2, "3", "w+1", "w*3");
         op(2, "3", "2", "9");
@@ -188,7 +188,7 @@ public final class TermsEdgeTest {
     }
 
     private static void powerOfNumbers() {
-        Stand.sentence("a term w^g d for each term w^f d of B (g is the one before f if f is not infinite, otherwise f)");
+        Stand.sentence("(g is the one before f if f is not infinite, otherwise f)");
         op(2, "2", "w*5", "w^5");
         op(2, "2", "w*1000000", "w^1000000");
         op(2, "2", "w^2*5", "w^(w*5)");
@@ -270,7 +270,7 @@ public final class TermsEdgeTest {
     }
 
     private static void member() {
-        Stand.sentence("MEMBER n of a limit whose last term is w^e c: its other terms; w^e (c - 1), unless c is 1");
+        Stand.sentence("its other terms; w^e (c - 1), unless c is 1");
         member("w^2+w", 5, "w^2+5");
         member("w", 5, "5");
         member("w*2", 5, "w+5");
@@ -297,7 +297,7 @@ public final class TermsEdgeTest {
     }
 
     private static void step() {
-        Stand.sentence("A STEP: as long as it is a limit, its member base; then the one before it");
+        Stand.sentence("as long as it is a limit, its member base; then the one before it");
         step("w+5", 3, "w+4");
         step("w", 2, "1");
         step("w", 3, "2");
@@ -390,7 +390,7 @@ public final class TermsEdgeTest {
     }
 
     private static void value() {
-        Stand.sentence("THE VALUE at n: the sum of c times n to the power of the value of e (0 to the power of 0 is 1)");
+        Stand.sentence("of all terms w^e c (0 to the power of 0 is 1)");
         value("0", 0, 0);
         value("5", 0, 5);
         value("w", 0, 0);
