@@ -4,10 +4,12 @@ import java.util.List;
 
 /** A desk with what the tests need around it: ordinals go in and come out as trees. */
 final class Bench {
+    /** An object is used for no more calls: a test that makes more would ask what is not promised. */
+    static final int MOST_CALLS = 512;
     private static final int MOST_NUMBERS = 3 * 20;
 
     final OrdinalDesk desk = new OrdinalDesk();
-    /** How many calls went into loading and reading. */
+    /** How many calls went into loading and reading, and those that the tests add to them. */
     int calls = 0;
     private static int wrong = 0;
 

@@ -3,6 +3,8 @@ public final class CallEdgeTest {
     private static final String ARGUMENT = Stand.ARGUMENT;
     /** Of size 19; its members but for member 0 are of size 21. */
     private static final String LARGE = "w^(w^7+w^6+w^5+w^4+w^3+w^2+w+1)+w^w*2";
+    /** Of size 18; its member 2 is of size 20, and so is that one's, but the next is of size 21. */
+    private static final String SMALLER = "w^(w^7+w^6+w^5+w^4+w^3+w^2+w)+w^w*2";
     private static final String TEN_LARGE_TERMS = "w^13*1000000+w^12*1000000+w^11*1000000+w^10*1000000"
             + "+w^9*1000000+w^8*1000000+w^7*1000000+w^6*1000000+w^5*1000000+w^4*1000000";
 
@@ -25,6 +27,7 @@ public final class CallEdgeTest {
         valueBeyond();
         fastArguments();
         fastFuel();
+        fastNumber();
         fastPile();
         fastFirst();
         Bench.finish();
@@ -338,6 +341,13 @@ public final class CallEdgeTest {
         Stand.with(a).answers(-1, "fast", 0, n, fuel - 1);
     }
 
+    /** The number grows by 1 an application, from 1000 at most: no call gets it beyond 3000, and these are fine. */
+    private static void fastNumber() {
+        Stand.sentence("Promise 14: NONE when it would need .. a number beyond 1000000");
+        Stand.with("0").answers(1001, "fast", 0, 1000, 2000);
+        Stand.with("1").answers(2000, "fast", 0, 1000, 2000);
+    }
+
     private static void fastPile() {
         Stand.sentence("Promise 14: NONE when it would need .. more than 12 on the pile");
         // Each + 1 leaves one on the pile; that LARGE is applied at all shows as its exception.
@@ -345,6 +355,9 @@ public final class CallEdgeTest {
         Stand.with(LARGE + "+12").refuses(Stand.ROOM, "fast", 0, 2, 2000);
         Stand.with(LARGE + "+13").answers(-1, "fast", 0, 2, 2000);
         Stand.with(LARGE + "+14").answers(-1, "fast", 0, 2, 2000);
+        // The member that is made there has room, and is the twelfth or the thirteenth.
+        Stand.with(SMALLER + "+11").refuses(Stand.ROOM, "fast", 0, 2, 2000);
+        Stand.with(SMALLER + "+12").answers(-1, "fast", 0, 2, 2000);
         // At 1 each goes when the next one comes, so the pile stays at one.
         Stand.with(LARGE + "+13").refuses(Stand.ROOM, "fast", 0, 1, 2000);
         Stand.with(LARGE + "+1999").refuses(Stand.ROOM, "fast", 0, 1, 2000);

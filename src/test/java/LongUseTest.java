@@ -3,7 +3,7 @@
  * 512th of its object, still answers as due. What later calls answer is free, so none is made.
  */
 public final class LongUseTest {
-    private static final int MOST_CALLS = 512;
+    private static final int MOST_CALLS = Bench.MOST_CALLS;
 
     private static final String[] NAMES = {"finite", "raise", "op", "member", "step", "chop", "start",
         "compare", "kind", "size", "at", "value", "fast", "record", "rise", "replace", "recall", "wipe"};
@@ -25,19 +25,13 @@ public final class LongUseTest {
     }
 
     private static void manyCalls(int last, int[] lastArguments) {
-        OrdinalDesk desk = new OrdinalDesk();
-        DeskModel model = new DeskModel();
+        Twin twin = new Twin();
         for (int i = 1; i < MOST_CALLS; i++) {
             int which = (i * 7) % NAMES.length;
             int[] arguments = i % 5 == 0 ? WRONG[which] : FINE[which];
-            same(desk, model, i, NAMES[which], arguments);
+            twin.call("call " + i, NAMES[which], arguments);
         }
-        same(desk, model, MOST_CALLS, NAMES[last], lastArguments);
-    }
-
-    private static void same(OrdinalDesk desk, DeskModel model, int number, String name, int... arguments) {
-        Bench.due("call " + number + ", " + Calls.text(name, arguments),
-                Calls.outcome(desk, name, arguments), Calls.outcome(model, name, arguments));
+        twin.call("call " + MOST_CALLS, NAMES[last], lastArguments);
     }
 
     /** Records that were made and wiped over and over leave room for twelve. */

@@ -29,27 +29,18 @@ public final class ModelTest {
         Bench.finish();
     }
 
-    private static void call(OrdinalDesk desk, DeskModel model, String where, String name, int... values) {
-        Bench.due(Calls.text(name, values) + " at " + where,
-                Calls.outcome(desk, name, values), Calls.outcome(model, name, values));
-    }
-
     /** One call on two slots with ordinals of up to the greatest size; the first eight are operations. */
     private void singleCall(int which) {
         Tree b = anyTree();
         Tree a = firstFor(which, b);
-        Bench bench = new Bench();
-        DeskModel model = new DeskModel();
-        bench.load(0, a);
-        bench.load(1, b);
-        bench.load(2, Tree.ZERO);
-        model.slots[0] = a;
-        model.slots[1] = b;
+        Twin twin = new Twin();
+        twin.load(0, a);
+        twin.load(1, b);
+        twin.load(2, Tree.ZERO);
         String where = a + " and " + b;
-        call(bench.desk, model, where, OPERATIONS[which], operands(which, a));
+        twin.call(where, OPERATIONS[which], operands(which, a));
         for (int slot = 0; slot < 3; slot++) {
-            Bench.due("slot " + slot + " behind " + OPERATIONS[which] + " at " + where,
-                    bench.read(slot).toString(), model.slots[slot].toString());
+            twin.sameSlot(OPERATIONS[which] + " at " + where, slot);
         }
     }
 
@@ -82,19 +73,18 @@ public final class ModelTest {
 
     /** Calls of all sorts on one object, some of them with wrong arguments; then the slots are read. */
     private void runOfCalls() {
-        OrdinalDesk desk = new OrdinalDesk();
-        DeskModel model = new DeskModel();
+        Twin twin = new Twin();
         for (int slot = 0; slot < 8; slot++) {
-            call(desk, model, "the beginning", "finite", random.nextInt(4), slot);
-            call(desk, model, "the beginning", "raise", random.nextInt(slot + 1), 1 + random.nextInt(3), slot);
+            twin.call("the beginning", "finite", random.nextInt(4), slot);
+            twin.call("the beginning", "raise", random.nextInt(slot + 1), 1 + random.nextInt(3), slot);
         }
         for (int i = 16; i < CALLS_OF_A_RUN; i++) {
             String name = random.nextInt(150) == 0 ? "wipe" : CALLS[random.nextInt(CALLS.length)];
-            call(desk, model, "call " + i, name, arguments(name));
+            twin.call("call " + i, name, arguments(name));
         }
         for (int slot = 0; slot < 8; slot++) {
-            for (int i = 0; i <= Math.min(model.slots[slot].writing().size(), CELLS_READ); i++) {
-                call(desk, model, "the end", "at", slot, i);
+            for (int i = 0; i <= Math.min(twin.lengthOfWriting(slot), CELLS_READ); i++) {
+                twin.call("the end", "at", slot, i);
             }
         }
     }

@@ -201,6 +201,11 @@ public final class RoomEdgeTest {
         op(2, "w+1", "20", ROOM);
         op(2, "w+1", "w+3", "w^(w+3)+w^(w+2)+w^(w+1)+w^w");
         op(2, "w+1", "w+10", ROOM);
+        op(2, "w^w+w+1", "4", ROOM);
+        op(2, "10", "8", ROOM);
+        op(2, "10", "w+6", "w*1000000");
+        op(2, "10", "w+7", ROOM);
+        op(2, "10", "w+1000000", ROOM);
         op(2, "w*101+9901", "3", ROOM);
         op(2, "w*101+9901", "w+2", ROOM);
     }

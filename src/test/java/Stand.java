@@ -12,7 +12,6 @@ final class Stand {
     static final String ROOM = "IllegalStateException";
     static final int SLOTS = 8;
 
-    private static final int MOST_CALLS = 512;
     private static String sentence = "";
 
     private final Bench bench = new Bench();
@@ -118,9 +117,8 @@ final class Stand {
             due(call, "record " + i, bench.read(0).toString(), normal(records.get(i)));
         }
         due(call, "number of records", bench.desk.wipe(), records.size());
-        // An object is used for no more: a test that reads further would ask what is not promised.
         int used = bench.calls + 2 * records.size() + 2;
-        due(call, "calls of the test itself within the bound", used <= MOST_CALLS, true);
+        due(call, "calls of the test itself within the bound", used <= Bench.MOST_CALLS, true);
     }
 
     private static String normal(String text) {
